@@ -952,7 +952,7 @@ public final class SaintsRoad {
                 }
                 if (waitingCount > 0) {
                     holdBest(day);
-                    moveOthersOn(day + 1 < days);
+                    moveOthersOn();
                 }
             }
         }
@@ -996,11 +996,12 @@ public final class SaintsRoad {
             return rankOfF < rankOfG || rankOfF == rankOfG && f < g;
         }
 
-        private void moveOthersOn(boolean hasNextDay) {
+        /** What the YEAR's last day moves on is LOST: heldDay has said so from the first. */
+        private void moveOthersOn() {
             int kept = 0;
             for (int i = 0; i < waitingCount; i++) {
                 int f = waiting[i];
-                if (hasNextDay && heldDay[f] < 0 && canYield(f)) {
+                if (heldDay[f] < 0 && canYield(f)) {
                     timesMoved[f]++;
                     waiting[kept] = f;
                     kept++;

@@ -193,7 +193,7 @@ public final class ProcessionTest {
             CHECK.due("timed from " + minute, x.timed(1, minute), slowTimed(x, minute));
         }
         CHECK.due("nothing changes", x.procession(1, 1), 0);
-        walk(x, 2, 100, 0, 0);
+        walk(x, 2, 106, 0, 2);
         CHECK.due("one CORNER isn't in the way", x.timed(1, 106), 106);
         CHECK.due("of one CORNER", x.timed(2, 5), -2);
         CHECK.due("not begun", x.timed(3, 5), -2);

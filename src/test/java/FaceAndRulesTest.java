@@ -1,0 +1,107 @@
+import java.io.IOException;
+import java.lang.reflect.Constructor;
+import java.lang.reflect.Field;
+import java.lang.reflect.Method;
+import java.lang.reflect.Modifier;
+import java.nio.file.Files;
+import java.nio.file.Paths;
+import java.util.Arrays;
+import java.util.HashSet;
+import java.util.List;
+import java.util.Set;
+import java.util.TreeSet;
+import java.util.regex.Matcher;
+import java.util.regex.Pattern;
+
+/** The public face, and those rules of LANGUAGE.md that a look at the class and its text can tell. */
+public final class FaceAndRulesTest {
+    private static final Check CHECK = new Check();
+    private static final String[] FACE = {"feed 5", "end 1", "calendar 1", "fault 1", "feast 3", "easter 1", "date 3",
+        "office 3", "held 3", "own 3", "fast 3", "wax 4", "next 4", "unlike 3", "quarrel 3", "rota 5", "turn 2",
+        "carried 1", "street 3", "begin 4", "goes 2", "late 2", "procession 2", "meets 0", "meeting 2", "timed 2",
+        "count 1"};
+
+    public static void main(String[] args) throws IOException {
+        face();
+        nestedClasses();
+        text();
+        CHECK.finish();
+    }
+
+    private static void face() {
+        Class<?> type = SaintsRoad.class;
+        CHECK.that("public and final", Modifier.isPublic(type.getModifiers()) && Modifier.isFinal(type.getModifiers()));
+        Set<String> methods = new TreeSet<>();
+        for (Method m : type.getDeclaredMethods()) {
+            if (!Modifier.isPrivate(m.getModifiers())) {
+                CHECK.that("public, answers int: " + m, Modifier.isPublic(m.getModifiers())
+                    && m.getReturnType() == int.class && !Modifier.isStatic(m.getModifiers()));
+                methods.add(m.getName() + " " + m.getParameterCount());
+            }
+        }
+        CHECK.that("the methods of the face: " + methods, methods.equals(new TreeSet<>(Arrays.asList(FACE))));
+        Set<String> fields = new TreeSet<>();
+        for (Field f : type.getDeclaredFields()) {
+            if (!Modifier.isPrivate(f.getModifiers())) {
+                fields.add(f.getName());
+            }
+        }
+        CHECK.that("the constants: " + fields, fields.equals(new TreeSet<>(Arrays.asList("NONE", "RANGE", "FULL"))));
+        Constructor<?>[] made = type.getDeclaredConstructors();
+        CHECK.that("one constructor", made.length == 1 && Modifier.isPublic(made[0].getModifiers())
+            && made[0].getParameterCount() == 0);
+        CHECK.due("NONE", SaintsRoad.NONE, -1);
+        CHECK.due("RANGE", SaintsRoad.RANGE, -2);
+        CHECK.due("FULL", SaintsRoad.FULL, -3);
+    }
+
+    private static void nestedClasses() {
+        Set<String> names = new HashSet<>();
+        for (String row : FACE) {
+            names.add(row.split(" ")[0]);
+        }
+        Class<?>[] nested = SaintsRoad.class.getDeclaredClasses();
+        CHECK.that("at most twelve classes", nested.length < 12);
+        for (Class<?> type : nested) {
+            CHECK.that("static: " + type, Modifier.isStatic(type.getModifiers()));
+            int fields = 0;
+            for (Field f : type.getDeclaredFields()) {
+                boolean isStatic = Modifier.isStatic(f.getModifiers());
+                CHECK.that("static is final: " + f, !isStatic || Modifier.isFinal(f.getModifiers()));
+                fields += isStatic ? 0 : 1;
+            }
+            CHECK.that("at most twenty fields: " + type, fields <= 20);
+            for (Method m : type.getDeclaredMethods()) {
+                CHECK.that("no name of the face: " + m, !names.contains(m.getName()));
+                CHECK.that("at most seven parameters: " + m, m.getParameterCount() <= 7);
+            }
+        }
+    }
+
+    private static void text() throws IOException {
+        List<String> lines = Files.readAllLines(Paths.get("src/main/java/SaintsRoad.java"));
+        String code = String.join("\n", lines).replaceAll("(?s)/\\*.*?\\*/", "").replaceAll("//[^\n]*", "")
+            .replaceAll("\"[^\"\n]*\"", "\"\"");
+        String[] banned = {"throw", "throws", "try", "catch", "synchronized", "assert", "equals", "hashCode",
+            "toString", "protected", "package", "Object", "System"};
+        for (String word : banned) {
+            Matcher found = Pattern.compile("\\b" + word + "\\b").matcher(code);
+            CHECK.that("no " + word, !found.find());
+        }
+        CHECK.that("no lambda", !code.contains("->"));
+        CHECK.that("no method reference", !code.contains("::"));
+        CHECK.that("plain signs only", code.chars().allMatch(c -> c < 128));
+        Matcher imports = Pattern.compile("import ([\\w.*]+);").matcher(code);
+        while (imports.find()) {
+            CHECK.that("import " + imports.group(1), imports.group(1).equals("java.util.Arrays"));
+        }
+        // A call makes nothing: every new stands in a constructor or where a field is told.
+        Matcher made = Pattern.compile("\n( *)[^\n]*\\bnew\\b[^\n]*").matcher(code);
+        while (made.find()) {
+            String line = made.group().trim();
+            boolean field = line.matches("(private )?(final )?\\w+(\\[\\])? \\w+ = new .*;");
+            boolean row = line.matches("\\w+(\\[\\w\\])? = new \\w+(\\[\\w+\\]|\\(\\));");
+            CHECK.that("made with the object: " + line, field || row);
+        }
+    }
+}
