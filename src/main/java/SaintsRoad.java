@@ -287,7 +287,7 @@ public final class SaintsRoad {
     public int meets() {
         for (int a = 0; a < PROCESSIONS; a++) {
             for (int b = a + 1; b < PROCESSIONS; b++) {
-                if (isLong(a, 2) && isLong(b, 2) && meeting(a, b) >= 0) {
+                if (meeting(a, b) >= 0) {
                     return 100 * a + b;
                 }
             }
