@@ -1,17 +1,42 @@
+import java.io.IOException;
 import java.nio.charset.StandardCharsets;
+import java.nio.file.Files;
+import java.nio.file.Path;
+import java.nio.file.Paths;
 import java.util.Arrays;
+import java.util.function.IntUnaryOperator;
 
-/** What the tests share: counting wrong answers, and writing texts on THE TAPE. */
+/** What the tests share: counting wrong answers by the document's sentences, and writing texts on THE TAPE. */
 final class Check {
+    private static final Path DOCUMENT = Paths.get("../shared/DOC.md");
+
+    private final String document = readDocument();
+    private String sentence = "";
+    private int sentences;
     private int right;
     private int wrong;
+
+    private static String readDocument() {
+        try {
+            return Files.exists(DOCUMENT) ? new String(Files.readAllBytes(DOCUMENT), StandardCharsets.UTF_8) : null;
+        } catch (IOException e) {
+            return null;
+        }
+    }
+
+    /** The document's words that the answers from here on hold it to; they must stand in it. */
+    void says(String words) {
+        sentence = "[" + words + "] ";
+        sentences++;
+        that("the document has these words", document == null || document.contains(words));
+    }
 
     void due(String call, int got, int want) {
         if (got == want) {
             right++;
         } else {
             wrong++;
-            System.out.println(call + " answered " + got + ", due is " + want);
+            System.out.println(sentence + call + " answered " + got + ", due is " + want);
         }
     }
 
@@ -19,12 +44,23 @@ final class Check {
         due(what, holds ? 1 : 0, 1);
     }
 
+    /** That a call takes numbers from least to most, both too, and answers others with refused. */
+    void bounds(String what, int least, int most, int refused, IntUnaryOperator call) {
+        for (int n : new int[] {least, most}) {
+            that(what + " takes " + n, call.applyAsInt(n) != refused);
+        }
+        for (int n : new int[] {least - 1, most + 1, Integer.MIN_VALUE, Integer.MAX_VALUE}) {
+            due(what + " of " + n, call.applyAsInt(n), refused);
+        }
+    }
+
     boolean isAllRight() {
         return wrong == 0;
     }
 
     void finish() {
-        System.out.println(right + " answers as due, " + wrong + " not");
+        System.out.println((sentences > 0 ? sentences + " sentences: " : "") + right + " answers as due, " + wrong
+            + " not");
         if (wrong != 0) {
             System.exit(1);
         }
@@ -63,13 +99,13 @@ final class Check {
         return x;
     }
 
-    /** The day of a date in a YEAR. */
-    static int day(SaintsRoad x, int year, int month, int date) {
-        for (int day = 0; day < 366; day++) {
-            if (x.date(year, day, 0) == month && x.date(year, day, 1) == date) {
-                return day;
-            }
+    /** Lines of FEASTS with names aa, ab, .. on so many days of January and February from the first on. */
+    static String daily(int feasts, int rank) {
+        StringBuilder text = new StringBuilder();
+        for (int f = 0; f < feasts; f++) {
+            text.append("fixed ").append(f < 31 ? "1 " + (f + 1) : "2 " + (f - 30)).append(" rank ").append(rank)
+                .append(' ').append((char) ('a' + f / 26)).append((char) ('a' + f % 26)).append(";");
         }
-        throw new IllegalStateException("no such date");
+        return text.toString();
     }
 }

@@ -5,6 +5,8 @@ import java.util.Random;
 /** All promises: runs of chance calls, each answer compared with the Model's. */
 public final class ModelTest {
     private static final int RUNS = 400;
+    /** One round more of calls stays within the 512 that the document promises. */
+    private static final int MOST_CALLS = 500;
     private static final String[] WORDS = {"fixed", "moved", "sunday", "rank", "vigil", "octave", "from", "till",
         "yield", "wax", "lent", "a", "zz", ";", "-", "5", "0", "9", "2001", "12345", "abcdefghijklm", "%", "A", "\0"};
     private static final String[] BLANKS = {" ", "\n", "  ", " \n "};
@@ -37,7 +39,7 @@ public final class ModelTest {
 
     private void go() {
         int theme = run % 4;
-        while (calls < 512) {
+        while (calls < MOST_CALLS) {
             int dice = chance.nextInt(10);
             if (theme == 0 && dice < 7) {
                 tellCalendar();
@@ -96,7 +98,7 @@ public final class ModelTest {
         byte[] bytes = text().getBytes(StandardCharsets.ISO_8859_1);
         int from = upTo(8) == 0 ? 0 : same0("end", 0);
         byte[] padded = Arrays.copyOf(bytes, (bytes.length + 19) / 20 * 20);
-        for (int i = 0; i < padded.length && calls < 512; i += 20) {
+        for (int i = 0; i < padded.length && calls < MOST_CALLS; i += 20) {
             int[] w = {Check.four(padded, i), Check.four(padded, i + 4), Check.four(padded, i + 8),
                 Check.four(padded, i + 12), Check.four(padded, i + 16)};
             same("feed", road.feed(w[0], w[1], w[2], w[3], w[4]), model.feed(w), w);

@@ -1,253 +1,292 @@
-/** Promises 7 to 15: easter, date, office, held, own, fast, wax, next, unlike. */
+import java.util.Calendar;
+import java.util.Date;
+import java.util.GregorianCalendar;
+import java.util.TimeZone;
+
+/** Term I: YEARS, days, EASTER and OWN days; promises 7, 8 and 11: easter, date, own. */
 public final class YearTest {
     private static final Check CHECK = new Check();
 
     public static void main(String[] args) {
+        yearsThereAre();
+        leapYears();
+        daysFromNought();
+        firstWeekday();
         easters();
-        dates();
-        ownDays();
-        givingWay();
-        octaves();
-        fasts();
-        wax();
-        nextFeast();
-        unlikePlaces();
+        easterBehindTheMoon();
+        easterRefused();
+        datesTold();
+        dateRefused();
+        feastsNumbered();
+        fromAndTill();
+        fixedDays();
+        movedDays();
+        sundays();
+        ownRefused();
         CHECK.finish();
     }
 
-    private static void easters() {
+    /** The library's own reckoning, without the reform of 1582. */
+    private static GregorianCalendar julian(int year, int month, int date) {
+        GregorianCalendar c = new GregorianCalendar(TimeZone.getTimeZone("UTC"));
+        c.setGregorianChange(new Date(Long.MAX_VALUE));
+        c.clear();
+        c.set(year, month - 1, date);
+        return c;
+    }
+
+    private static int dayOf(int year, int month, int date) {
+        return julian(year, month, date).get(Calendar.DAY_OF_YEAR) - 1;
+    }
+
+    private static int weekdayOf(int year, int month, int date) {
+        return julian(year, month, date).get(Calendar.DAY_OF_WEEK) - Calendar.SUNDAY;
+    }
+
+    private static void yearsThereAre() {
+        CHECK.says("YEARS 1 .. 2000");
+        SaintsRoad x = Check.with("fixed 1 1 rank 1 a;");
+        CHECK.bounds("easter", 1, 2000, -2, x::easter);
+        CHECK.bounds("date", 1, 2000, -1, year -> x.date(year, 0, 0));
+        CHECK.bounds("office", 1, 2000, -2, year -> x.office(0, year, 0));
+        CHECK.bounds("held", 1, 2000, -2, year -> x.held(0, year, 0));
+        CHECK.bounds("own", 1, 2000, -2, year -> x.own(0, year, 0));
+        CHECK.bounds("fast", 1, 2000, -2, year -> x.fast(0, year, 0));
+        CHECK.bounds("wax", 1, 2000, -2, year -> x.wax(0, year, 0, 0));
+        CHECK.bounds("next", 1, 2000, -2, year -> x.next(0, year, 0, 8));
+        CHECK.bounds("unlike", 1, 2000, -2, year -> x.unlike(0, 1, year));
+        CHECK.bounds("rota", 1, 2000, -2, year -> x.rota(0, year, year, 8, 1));
+    }
+
+    private static void leapYears() {
+        CHECK.says("(each fourth one, 4, 8, .., has a 29th of February)");
+        for (int year : new int[] {4, 8, 100, 200, 400, 1000, 1500, 1700, 1800, 1900, 1996, 2000}) {
+            SaintsRoad x = new SaintsRoad();
+            CHECK.due("month of the 29th, " + year, x.date(year, 59, 0), 2);
+            CHECK.due("date of the 29th, " + year, x.date(year, 59, 1), 29);
+            CHECK.due("the day behind it, " + year, x.date(year, 60, 1), 1);
+            CHECK.due("the last day, " + year, x.date(year, 365, 1), 31);
+            CHECK.due("none behind it, " + year, x.date(year, 366, 1), -1);
+        }
+        for (int year : new int[] {1, 2, 3, 5, 6, 7, 9, 99, 101, 1001, 1998, 1999}) {
+            SaintsRoad x = new SaintsRoad();
+            CHECK.due("month of day 58, " + year, x.date(year, 58, 0), 2);
+            CHECK.due("month of day 59, " + year, x.date(year, 59, 0), 3);
+            CHECK.due("the last day, " + year, x.date(year, 364, 1), 31);
+            CHECK.due("none behind it, " + year, x.date(year, 365, 1), -1);
+        }
+    }
+
+    private static void daysFromNought() {
+        CHECK.says("DAYS of a YEAR are numbered from 0 (the first of January) on");
         SaintsRoad x = new SaintsRoad();
+        for (int year : new int[] {1, 4, 1066, 2000}) {
+            CHECK.due("month of day 0, " + year, x.date(year, 0, 0), 1);
+            CHECK.due("date of day 0, " + year, x.date(year, 0, 1), 1);
+            CHECK.due("no day -1, " + year, x.date(year, -1, 0), -1);
+        }
+    }
+
+    private static void firstWeekday() {
+        CHECK.says("the first one of YEAR 1 is a Saturday");
+        SaintsRoad x = new SaintsRoad();
+        CHECK.due("day 0", x.date(1, 0, 2), 6);
+        CHECK.due("day 1", x.date(1, 1, 2), 0);
+        CHECK.due("the last one", x.date(1, 364, 2), 6);
+        CHECK.due("day 0 of YEAR 2", x.date(2, 0, 2), 0);
+        CHECK.due("the last one of YEAR 2000", x.date(2000, 365, 2), weekdayOf(2000, 12, 31));
+    }
+
+    private static void easters() {
+        CHECK.says("with d the rest by 30 of 19 times (the rest of the YEAR by 19) and 15: the first Sunday behind");
         int[][] known = {{1066, 4, 16}, {1492, 4, 22}, {1582, 4, 15}, {325, 4, 18}, {1, 3, 27}, {2000, 4, 17},
             {2, 4, 16}, {1204, 4, 25}, {1421, 3, 23}};
-        for (int[] row : known) {
-            int day = x.easter(row[0]);
-            CHECK.due("month of EASTER " + row[0], x.date(row[0], day, 0), row[1]);
-            CHECK.due("date of EASTER " + row[0], x.date(row[0], day, 1), row[2]);
-        }
-        for (int year = 1; year <= 2000; year++) {
-            CHECK.due("EASTER " + year + " is a Sunday", x.date(year, x.easter(year), 2), 0);
-        }
-        for (int year : new int[] {0, 2001, -1, Integer.MAX_VALUE, Integer.MIN_VALUE}) {
-            CHECK.due("easter(" + year + ")", x.easter(year), -2);
-        }
-    }
-
-    private static void dates() {
         SaintsRoad x = new SaintsRoad();
-        int weekday = 6;
-        for (int year = 1; year <= 2000; year++) {
-            int last = year % 4 == 0 ? 365 : 364;
-            CHECK.due("first weekday of " + year, x.date(year, 0, 2), weekday);
-            CHECK.due("last date of " + year, x.date(year, last, 1), 31);
-            CHECK.due("behind the last of " + year, x.date(year, last + 1, 1), -1);
-            weekday = (weekday + last + 1) % 7;
+        for (int[] row : known) {
+            CHECK.due("EASTER " + row[0], x.easter(row[0]), dayOf(row[0], row[1], row[2]));
         }
-        int[] ends = {31, 29, 31, 30, 31, 30, 31, 31, 30, 31, 30, 31};
-        int day = 0;
-        for (int month = 1; month <= 12; month++) {
-            for (int date = 1; date <= ends[month - 1]; date++) {
-                CHECK.due("month of day " + day, x.date(4, day, 0), month);
-                CHECK.due("date of day " + day, x.date(4, day, 1), date);
-                day++;
-            }
-        }
-        CHECK.due("the first of March", x.date(5, 59, 0), 3);
-        CHECK.due("no day -1", x.date(5, -1, 0), -1);
-        CHECK.due("no YEAR 0", x.date(0, 5, 0), -1);
-        CHECK.due("no YEAR 2001", x.date(2001, 5, 0), -1);
-        CHECK.due("no what 3", x.date(5, 5, 3), -1);
-        CHECK.due("no what -1", x.date(5, 5, -1), -1);
-    }
-
-    private static void ownDays() {
-        SaintsRoad x = Check.with("fixed 2 29 rank 1 leap; moved -90 rank 1 early; sunday 5 2 rank 1 fifth;"
-            + " fixed 12 31 rank 1 last from 5 till 7; moved 90 rank 1 far; moved -0 rank 1 easter;"
-            + " sunday 1 5 rank 1 may;");
+        int least = 400;
+        int most = 0;
         for (int year = 1; year <= 2000; year++) {
+            x = year % 500 == 1 ? new SaintsRoad() : x;
+            int d = (19 * (year % 19) + 15) % 30;
+            int e = (2 * (year % 4) + 4 * (year % 7) - d + 34) % 7;
+            int sum = d + e + 114;
             int easter = x.easter(year);
-            int leap = year % 4 == 0 ? 1 : 0;
-            CHECK.due("29th " + year, x.own(0, year, 0), leap == 1 ? 59 : -10);
-            CHECK.due("early " + year, x.own(0, year, 1), easter >= 90 ? easter - 90 : -10);
-            boolean five = leap == 1 && x.date(year, 31, 2) == 0;
-            CHECK.due("fifth " + year, x.own(0, year, 2), five ? 59 : -10);
-            CHECK.due("last " + year, x.own(0, year, 3), year >= 5 && year <= 7 ? 364 : -10);
-            CHECK.due("far " + year, x.own(0, year, 4), easter + 90);
-            CHECK.due("easter " + year, x.own(0, year, 5), easter);
-            int may = x.own(0, year, 6);
-            CHECK.that("may " + year, x.date(year, may, 0) == 5 && x.date(year, may, 1) <= 7
-                && x.date(year, may, 2) == 0);
+            CHECK.due("EASTER " + year, easter, dayOf(year, sum / 31, sum % 31 + 1));
+            int march = easter - dayOf(year, 3, 1) + 1;
+            least = Math.min(least, march);
+            most = Math.max(most, march);
         }
-        SaintsRoad y = Check.with("fixed 1 1 rank 1 a;");
-        int[][] wrong = {{-1, 5, 0}, {4, 5, 0}, {0, 0, 0}, {0, 2001, 0}, {0, 5, 1}, {0, 5, -1}, {1, 5, 0}};
-        for (int[] w : wrong) {
-            CHECK.due("own " + w[0] + " " + w[1] + " " + w[2], y.own(w[0], w[1], w[2]), -2);
-            CHECK.due("held " + w[0] + " " + w[1] + " " + w[2], y.held(w[0], w[1], w[2]), -2);
+        CHECK.due("the earliest of all", least, 22);
+        CHECK.due("the latest of all", most, 31 + 25);
+    }
+
+    private static void easterBehindTheMoon() {
+        CHECK.says("behind the d-th day after the 21st of March (d 0: behind the 21st itself)");
+        int sundayMoons = 0;
+        int noughts = 0;
+        for (int year = 1; year <= 2000; year++) {
+            int d = (19 * (year % 19) + 15) % 30;
+            if (weekdayOf(year, 3, 21 + d) == 0) {
+                sundayMoons++;
+                noughts += d == 0 ? 1 : 0;
+                CHECK.due("that day is a Sunday, " + year, new SaintsRoad().easter(year), dayOf(year, 3, 21 + d + 7));
+            } else if (d == 0) {
+                int wait = 7 - weekdayOf(year, 3, 21);
+                CHECK.due("d is 0, " + year, new SaintsRoad().easter(year), dayOf(year, 3, 21 + wait));
+            } else if (weekdayOf(year, 3, 21 + d) == 6) {
+                CHECK.due("that day is a Saturday, " + year, new SaintsRoad().easter(year), dayOf(year, 3, 22 + d));
+            }
+        }
+        CHECK.that("there are YEARS in which that day is a Sunday", sundayMoons > 0 && noughts > 0);
+    }
+
+    private static void easterRefused() {
+        CHECK.says("The day of EASTER; RANGE: no such YEAR");
+        CHECK.bounds("easter", 1, 2000, -2, year -> new SaintsRoad().easter(year));
+    }
+
+    private static void datesTold() {
+        CHECK.says("Of a day, what 0: month 1 .. 12, 1: its date, 2: day of the week (0 Sunday .. 6 Saturday)");
+        for (int year : new int[] {1, 2, 3, 4, 100, 1582, 1752, 1900, 1999, 2000}) {
+            SaintsRoad x = new SaintsRoad();
+            GregorianCalendar c = julian(year, 1, 1);
+            for (int day = 0; c.get(Calendar.YEAR) == year; day++) {
+                x = day % 100 == 99 ? new SaintsRoad() : x;
+                CHECK.due("month of " + day + ", " + year, x.date(year, day, 0), c.get(Calendar.MONTH) + 1);
+                CHECK.due("date of " + day + ", " + year, x.date(year, day, 1), c.get(Calendar.DAY_OF_MONTH));
+                CHECK.due("weekday of " + day + ", " + year, x.date(year, day, 2),
+                    c.get(Calendar.DAY_OF_WEEK) - Calendar.SUNDAY);
+                c.add(Calendar.DAY_OF_MONTH, 1);
+            }
+        }
+        SaintsRoad x = new SaintsRoad();
+        for (int year = 1; year <= 2000; year++) {
+            x = year % 500 == 1 ? new SaintsRoad() : x;
+            CHECK.due("the first weekday of " + year, x.date(year, 0, 2), weekdayOf(year, 1, 1));
         }
     }
 
-    private static void givingWay() {
-        String five = "fixed 3 1 rank 3 a; fixed 3 1 rank 2 b; fixed 3 1 rank 2 c; fixed 3 2 rank 2 d;"
-            + " fixed 3 1 rank 4 e;";
-        SaintsRoad x = Check.with(five);
-        heldDays("without yield", x, 5, -1, 59, -1, 60, -1);
-        x = Check.with(five + "yield 3 30;");
-        heldDays("yield 3 30", x, 5, 62, 59, 60, 61, -1);
-        x = Check.with(five + "yield 3 2;");
-        heldDays("yield 3 2", x, 5, -1, 59, 60, 61, -1);
-        x = Check.with(five + "yield 3 3;");
-        heldDays("yield 3 3", x, 5, 62, 59, 60, 61, -1);
-        x = Check.with(five + "yield 2 30;");
-        heldDays("yield 2 30", x, 5, -1, 59, 60, 61, -1);
-        x = Check.with(five + "yield 8 0;");
-        heldDays("yield 8 0", x, 5, -1, 59, -1, 60, -1);
-        x = Check.with("fixed 12 31 rank 1 a; fixed 12 31 rank 2 b; fixed 12 30 rank 1 c; fixed 12 30 rank 1 d;"
-            + " yield 8 30;");
-        heldDays("beyond the YEAR", x, 5, 364, -1, 363, -1);
-        heldDays("beyond a long YEAR", x, 4, 365, -1, 364, -1);
-        CHECK.due("none comes over", x.office(0, 6, 0), -10);
-        x = Check.with("fixed 1 1 rank 5 low; fixed 1 1 rank 1 a; fixed 1 2 rank 5 b; yield 5 9;");
-        heldDays("of one R the one told first", x, 5, 1, 0, 2);
-        x = Check.with("fixed 1 2 rank 5 b; fixed 1 1 rank 5 low; fixed 1 1 rank 1 a; yield 5 9;");
-        heldDays("told first, though the other was moved on", x, 5, 1, 2, 0);
-        x = Check.with("fixed 2 29 rank 1 a; fixed 1 1 rank 1 b till 3;");
-        heldDays("not IN the YEAR", x, 5, -10, -10);
-        CHECK.due("office(-1)", x.office(-1, 5, 5), -2);
-        CHECK.due("office(4)", x.office(4, 5, 5), -2);
-        CHECK.due("office YEAR 0", x.office(0, 0, 5), -2);
-        CHECK.due("office YEAR 2001", x.office(0, 2001, 5), -2);
-        CHECK.due("office day -1", x.office(0, 5, -1), -2);
-        CHECK.due("office day 365", x.office(0, 5, 365), -2);
-        CHECK.due("office day 366", x.office(0, 4, 366), -2);
-        CHECK.due("office day 365 of a long YEAR", x.office(0, 4, 365), -10);
+    private static void dateRefused() {
+        CHECK.says("day of the week (0 Sunday .. 6 Saturday). NONE when there is none such");
+        SaintsRoad x = new SaintsRoad();
+        CHECK.bounds("YEAR", 1, 2000, -1, year -> x.date(year, 0, 2));
+        CHECK.bounds("day of YEAR 5", 0, 364, -1, day -> x.date(5, day, 1));
+        CHECK.bounds("day of YEAR 4", 0, 365, -1, day -> x.date(4, day, 1));
+        CHECK.bounds("what", 0, 2, -1, what -> x.date(4, 0, what));
     }
 
-    private static void heldDays(String what, SaintsRoad x, int year, int... days) {
-        for (int f = 0; f < days.length; f++) {
-            CHECK.due(what + ": held " + f, x.held(0, year, f), days[f]);
-            if (days[f] >= 0) {
-                CHECK.due(what + ": office of its day", x.office(0, year, days[f]), f);
+    private static void feastsNumbered() {
+        CHECK.says("FEASTS are numbered from 0 as they are told");
+        SaintsRoad x = Check.with("fixed 12 1 rank 8 z; lent 5; fixed 1 1 rank 1 a; wax 1 1; moved 1 rank 4 m;");
+        CHECK.due("FEASTS", x.count(10), 3);
+        CHECK.due("the first", x.feast(0, 0, 10), 'z');
+        CHECK.due("the second", x.feast(0, 1, 10), 'a');
+        CHECK.due("the third", x.feast(0, 2, 10), 'm');
+        CHECK.due("none behind it", x.feast(0, 3, 10), -1);
+    }
+
+    private static void fromAndTill() {
+        CHECK.says("One is IN a YEAR from its from (1) to its till (2000), if its day is there");
+        SaintsRoad x = Check.with("fixed 1 1 rank 1 a; fixed 1 2 rank 1 b from 50; fixed 1 3 rank 1 c till 60;"
+            + " fixed 1 4 rank 1 d from 50 till 60; fixed 1 5 rank 1 e from 55 till 55; moved 0 rank 1 f till 60 from 50;"
+            + " sunday 1 7 rank 1 g from 50 till 60; fixed 1 6 rank 1 h from 1 till 2000;");
+        int[][] spans = {{1, 2000}, {50, 2000}, {1, 60}, {50, 60}, {55, 55}, {50, 60}, {50, 60}, {1, 2000}};
+        for (int year : new int[] {1, 49, 50, 54, 55, 56, 60, 61, 2000}) {
+            for (int f = 0; f < spans.length; f++) {
+                boolean in = year >= spans[f][0] && year <= spans[f][1];
+                CHECK.due(f + " is IN " + year, x.own(0, year, f) == -10 ? 0 : 1, in ? 1 : 0);
+                CHECK.due(f + " is HELD in " + year, x.held(0, year, f) == -10 ? 0 : 1, in ? 1 : 0);
             }
         }
     }
 
-    private static void octaves() {
-        SaintsRoad x = Check.with("fixed 3 1 rank 1 a octave; fixed 3 4 rank 2 plain; fixed 3 6 rank 3 b octave;"
-            + " fixed 3 6 rank 1 above; fixed 12 28 rank 1 late octave; fixed 4 1 rank 8 c octave;"
-            + " fixed 4 3 rank 1 d octave;");
-        int[] march = {0, -20, -20, 1, -20, 3, -20, -20};
-        for (int i = 0; i < march.length; i++) {
-            CHECK.due("day " + (59 + i), x.office(0, 5, 59 + i), march[i]);
-        }
-        CHECK.that("behind the octave", x.office(0, 5, 67) == -10 || x.office(0, 5, 67) == -11);
-        CHECK.due("c", x.office(0, 5, 91), -25);
-        CHECK.due("the latest, not the highest", x.office(0, 5, 93), 6 == x.office(0, 5, 92) ? -26 : 0);
-        CHECK.due("the eighth day", x.office(0, 5, 99), -26);
-        CHECK.that("the ninth day", x.office(0, 5, 100) <= -10 && x.office(0, 5, 100) >= -11);
-        CHECK.due("the last day", x.office(0, 5, 364), -24);
-        CHECK.that("not in the next YEAR", x.office(0, 6, 0) <= -10 && x.office(0, 6, 0) >= -11);
-        CHECK.due("a Sunday in an octave", x.office(0, 5, sundayIn(x, 5, 93, 99)), -26);
-    }
-
-    private static int sundayIn(SaintsRoad x, int year, int from, int to) {
-        for (int day = from; day <= to; day++) {
-            if (x.date(year, day, 2) == 0) {
-                return day;
+    private static void fixedDays() {
+        CHECK.says("of fixed the date");
+        SaintsRoad x = Check.with("fixed 1 1 rank 1 a; fixed 2 28 rank 1 b; fixed 2 29 rank 1 c; fixed 3 1 rank 1 d;"
+            + " fixed 12 31 rank 1 e; fixed 4 30 rank 1 f; fixed 10 14 rank 1 g;");
+        int[] shortYear = {0, 58, -10, 59, 364, 119, 286};
+        int[] longYear = {0, 58, 59, 60, 365, 120, 287};
+        for (int f = 0; f < shortYear.length; f++) {
+            for (int year : new int[] {1, 3, 5, 1999}) {
+                CHECK.due("own " + f + " in " + year, x.own(0, year, f), shortYear[f]);
+                CHECK.due("held " + f + " in " + year, x.held(0, year, f), shortYear[f]);
+            }
+            for (int year : new int[] {4, 100, 2000}) {
+                CHECK.due("own " + f + " in " + year, x.own(0, year, f), longYear[f]);
+                CHECK.due("held " + f + " in " + year, x.held(0, year, f), longYear[f]);
             }
         }
-        throw new IllegalStateException("no Sunday");
     }
 
-    private static void fasts() {
-        SaintsRoad x = Check.with("lent 40;");
-        int easter = x.easter(1066);
-        for (int day = 0; day < 365; day++) {
-            boolean fast = day >= easter - 40 && day < easter && x.date(1066, day, 2) != 0;
-            CHECK.due("lent " + day, x.fast(0, 1066, day), fast ? 1 : 0);
+    private static void movedDays() {
+        CHECK.says("of moved EASTER and N (within the YEAR)");
+        String text = "moved 90 rank 1 a; moved -90 rank 1 b; moved -85 rank 1 c; moved 0 rank 1 d;";
+        int[] shifts = {90, -90, -85, 0};
+        int onTheFirst = 0;
+        int ahead = 0;
+        for (int year = 1; year <= 2000; year += 3) {
+            SaintsRoad x = Check.with(text);
+            for (int f = 0; f < shifts.length; f++) {
+                int day = x.easter(year) + shifts[f];
+                onTheFirst += day == 0 ? 1 : 0;
+                ahead += day == -1 ? 1 : 0;
+                CHECK.due("own " + f + " in " + year, x.own(0, year, f), day >= 0 ? day : -10);
+            }
         }
-        x = Check.with("lent 90;");
-        for (int year = 1; year <= 40; year++) {
-            CHECK.due("down to the first of " + year, x.fast(0, year, 0),
-                x.easter(year) <= 90 && x.date(year, 0, 2) != 0 ? 1 : 0);
-        }
-        // In YEAR 5 the first of January is a Thursday: the 4th a Sunday, the 5th a Monday.
-        x = Check.with("fixed 1 5 rank 1 monday vigil; fixed 1 8 rank 1 thursday vigil;"
-            + " fixed 1 8 rank 2 lost vigil; fixed 1 1 rank 1 first vigil; fixed 12 31 rank 1 z;");
-        CHECK.due("the weekday", x.date(5, 3, 2), 0);
-        int[] january = {0, 0, 1, 0, 0, 0, 1, 0};
-        for (int day = 0; day < january.length; day++) {
-            CHECK.due("vigil " + day, x.fast(0, 5, day), january[day]);
-        }
-        CHECK.due("none ahead of the YEAR", x.fast(0, 4, 365), 0);
-        // YEAR 1066 begins on a Sunday: the vigil of its second day would be ahead of the YEAR.
-        x = Check.with("fixed 1 2 rank 1 a vigil; fixed 1 8 rank 1 b vigil;");
-        CHECK.due("a Sunday", x.date(1066, 0, 2), 0);
-        CHECK.due("a Sunday is no FAST", x.fast(0, 1066, 0), 0);
-        CHECK.due("ahead of the YEAR", x.fast(0, 1065, 364), 0);
-        CHECK.due("ahead of a Sunday", x.fast(0, 1066, 6), 1);
-        x = Check.with("fixed 1 8 rank 2 a vigil; fixed 1 8 rank 1 b; yield 2 2;");
-        CHECK.due("moved on: not the day ahead of its own", x.fast(0, 5, 6), 0);
-        CHECK.due("moved on: the day ahead of its new one", x.fast(0, 5, 7), 1);
-        CHECK.due("fast of no PLACE", x.fast(4, 5, 5), -2);
-        CHECK.due("fast of no YEAR", x.fast(0, 0, 5), -2);
-        CHECK.due("fast of no day", x.fast(0, 5, 365), -2);
-        CHECK.due("fast of day -1", x.fast(0, 5, -1), -2);
+        CHECK.that("some fall on the first day, some just ahead of it", onTheFirst > 0 && ahead > 0);
+        // EASTER of YEAR 1 is day 85.
+        SaintsRoad x = Check.with("moved -85 rank 1 a; moved -86 rank 1 b;");
+        CHECK.due("the first day", x.own(0, 1, 0), 0);
+        CHECK.due("ahead of the YEAR", x.own(0, 1, 1), -10);
+        CHECK.due("held on the first day", x.held(0, 1, 0), 0);
+        CHECK.due("not held", x.held(0, 1, 1), -10);
     }
 
-    private static void wax() {
-        SaintsRoad x = Check.with("fixed 3 1 rank 1 a octave; fixed 3 3 rank 2 b; fixed 3 5 rank 8 c; wax 1 103;"
-            + " wax 2 7; fixed 12 31 rank 3 e; wax 3 9999;");
-        int[] march = {103, 25, 7, 25, 0, 25, 25, 25, 0};
-        int sum = 0;
-        for (int i = 0; i < march.length; i++) {
-            sum += march[i];
-            CHECK.due("wax of " + (59 + i), x.wax(0, 5, 59 + i, 59 + i), march[i]);
-            CHECK.due("wax to " + (59 + i), x.wax(0, 5, 59, 59 + i), sum);
+    private static void sundays() {
+        CHECK.says("of sunday the K-th Sunday (not a fifth one that there isn't)");
+        StringBuilder text = new StringBuilder();
+        for (int month = 1; month <= 12; month++) {
+            for (int k = 1; k <= 5; k++) {
+                text.append("sunday ").append(k).append(' ').append(month).append(" rank 1 ")
+                    .append((char) ('a' + month)).append((char) ('a' + k)).append(';');
+            }
         }
-        CHECK.due("wax of a YEAR", x.wax(0, 5, 0, 364), sum + 9999);
-        CHECK.due("wax of a long YEAR", x.wax(0, 4, 365, 365), 9999);
-        CHECK.due("from above to", x.wax(0, 5, 6, 5), -2);
-        CHECK.due("from -1", x.wax(0, 5, -1, 5), -2);
-        CHECK.due("to 365", x.wax(0, 5, 0, 365), -2);
-        CHECK.due("PLACE 4", x.wax(4, 5, 0, 5), -2);
-        CHECK.due("YEAR 0", x.wax(0, 0, 0, 5), -2);
+        // 28 YEARS have every way in which days of the week fall.
+        for (int year = 1973; year <= 2000; year++) {
+            SaintsRoad x = Check.with(text.toString());
+            for (int month = 1; month <= 12; month++) {
+                int first = 1;
+                while (weekdayOf(year, month, first) != 0) {
+                    first++;
+                }
+                int last = julian(year, month, 1).getActualMaximum(Calendar.DAY_OF_MONTH);
+                for (int k = 1; k <= 5; k++) {
+                    int date = first + 7 * (k - 1);
+                    CHECK.due("Sunday " + k + " of " + month + " in " + year, x.own(0, year, 5 * (month - 1) + k - 1),
+                        date <= last ? dayOf(year, month, date) : -10);
+                }
+            }
+        }
+        SaintsRoad x = Check.with("sunday 5 2 rank 1 a; sunday 5 1 rank 1 b;");
+        CHECK.due("a fifth one of February", x.held(0, 20, 0), weekdayOf(20, 2, 29) == 0 ? 59 : -10);
+        CHECK.due("a fifth one that there isn't", x.held(0, 5, 0), -10);
     }
 
-    private static void nextFeast() {
-        SaintsRoad x = Check.with("fixed 3 1 rank 2 a; fixed 4 1 rank 1 b; fixed 5 1 rank 8 c from 40;"
-            + " fixed 4 1 rank 8 lost;");
-        CHECK.due("that day itself", x.next(0, 5, 59, 2), 5059);
-        CHECK.due("the day behind", x.next(0, 5, 60, 2), 5090);
-        CHECK.due("of a higher R", x.next(0, 5, 0, 1), 5090);
-        CHECK.due("in the next YEAR", x.next(0, 5, 91, 8), 6059);
-        CHECK.due("none behind 2000", x.next(0, 2000, 200, 8), -1);
-        CHECK.due("in 2000", x.next(0, 1999, 200, 8), 2000060);
-        x = Check.with("fixed 5 1 rank 8 c from 40;");
-        CHECK.due("30 YEARS", x.next(0, 11, 364, 8), 40121);
-        CHECK.due("31 YEARS", x.next(0, 10, 0, 8), -1);
-        CHECK.due("R above r", x.next(0, 40, 0, 7), -1);
-        CHECK.due("r 0", x.next(0, 40, 0, 0), -2);
-        CHECK.due("r 9", x.next(0, 40, 0, 9), -2);
-        CHECK.due("PLACE -1", x.next(-1, 40, 0, 8), -2);
-        CHECK.due("YEAR 2001", x.next(0, 2001, 0, 8), -2);
-        CHECK.due("day 365", x.next(0, 41, 365, 8), -2);
-        CHECK.due("day -1", x.next(0, 41, -1, 8), -2);
-    }
-
-    private static void unlikePlaces() {
-        SaintsRoad x = Check.with("fixed 3 1 rank 1 a octave; fixed 5 1 rank 1 b;");
-        CHECK.due("two empty ones", x.unlike(1, 2, 5), 0);
-        CHECK.due("one empty", x.unlike(0, 1, 5), 9);
-        CHECK.due("the other way", x.unlike(1, 0, 5), 9);
-        Check.tell(x, 1, "fixed 5 1 rank 3 b; fixed 3 1 rank 2 a octave;");
-        CHECK.due("of other numbers and ranks", x.unlike(0, 1, 5), 0);
-        Check.tell(x, 1, "fixed 5 1 rank 3 b; fixed 3 2 rank 2 a octave;");
-        CHECK.due("a day later", x.unlike(0, 1, 5), 3);
-        Check.tell(x, 1, "fixed 5 1 rank 3 c; fixed 3 1 rank 2 d octave;");
-        CHECK.due("of other names", x.unlike(0, 1, 5), 9);
-        CHECK.due("itself", x.unlike(0, 0, 5), 0);
-        CHECK.due("PLACE 4", x.unlike(0, 4, 5), -2);
-        CHECK.due("PLACE -1", x.unlike(-1, 0, 5), -2);
-        CHECK.due("YEAR 0", x.unlike(0, 1, 0), -2);
-        CHECK.due("YEAR 2001", x.unlike(0, 1, 2001), -2);
+    private static void ownRefused() {
+        CHECK.says("Its OWN day; -10: not IN the YEAR; RANGE");
+        SaintsRoad x = Check.with(Check.daily(60, 1));
+        for (int p = 1; p <= 3; p++) {
+            Check.tell(x, p, "fixed 1 2 rank 1 a till 1999; fixed 1 2 rank 1 b;");
+        }
+        CHECK.bounds("PLACE", 0, 3, -2, p -> x.own(p, 5, 0));
+        CHECK.bounds("YEAR", 1, 2000, -2, year -> x.own(3, year, 0));
+        CHECK.bounds("FEAST", 0, 59, -2, f -> x.own(0, 5, f));
+        CHECK.bounds("FEAST of PLACE 3", 0, 1, -2, f -> x.own(3, 5, f));
+        CHECK.due("not IN the YEAR", x.own(3, 2000, 0), -10);
+        CHECK.due("no FEAST, and no YEAR", x.own(3, 2001, 2), -2);
+        CHECK.due("LOST, its OWN day still", x.own(3, 1999, 1), 1);
+        CHECK.due("of a PLACE without any", new SaintsRoad().own(0, 5, 0), -2);
     }
 }
