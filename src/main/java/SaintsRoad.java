@@ -484,7 +484,6 @@ public final class SaintsRoad {
 
         void clear(int newKind) {
             kind = newKind;
-            letterCount = 0;
             vigil = false;
             octave = false;
             from = 1;
@@ -1323,11 +1322,8 @@ public final class SaintsRoad {
             return reached[(stretch + 1) / 2] + tail;
         }
 
-        /** Whether it could MEET another one between a stretch of its own and one of that. */
+        /** Whether it could MEET another one on a stretch of its own and one of that, both CORNERS or both STREETS. */
         private boolean crosses(int mine, Procession other, int its) {
-            if (mine % 2 != its % 2) {
-                return false;
-            }
             return corners[mine / 2] == other.corners[(its + 1) / 2]
                 && corners[(mine + 1) / 2] == other.corners[its / 2];
         }
@@ -1336,7 +1332,7 @@ public final class SaintsRoad {
         int firstMeeting(Procession other) {
             int first = NONE;
             for (int mine = 0; mine < stretches(); mine++) {
-                for (int its = 0; its < other.stretches(); its++) {
+                for (int its = mine % 2; its < other.stretches(); its += 2) {
                     int minute = crosses(mine, other, its) ? firstShared(mine, other, its) : NONE;
                     if (minute >= 0 && (first < 0 || minute < first)) {
                         first = minute;
@@ -1355,7 +1351,7 @@ public final class SaintsRoad {
         /** Marks the minutes at which this one must not begin for the other's sake. */
         void addHindrances(Procession other, int[] hindrances) {
             for (int mine = 0; mine < stretches(); mine++) {
-                for (int its = 0; its < other.stretches(); its++) {
+                for (int its = mine % 2; its < other.stretches(); its += 2) {
                     if (crosses(mine, other, its)) {
                         int from = other.beginning + other.comes(its) - leaves(mine);
                         int till = other.beginning + other.leaves(its) - comes(mine);

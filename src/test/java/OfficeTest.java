@@ -379,6 +379,10 @@ public final class OfficeTest {
         CHECK.due("not where its OWN day was", x.next(0, 5, 2, 1), 6001);
         x = Check.with("fixed 6 1 rank 3 late; fixed 2 1 rank 3 early;");
         CHECK.due("the first, not the one told first", x.next(0, 5, 0, 3), 5031);
+        x = Check.with("fixed 1 1 rank 3 first; fixed 2 1 rank 3 second; fixed 1 2 rank 3 third;");
+        CHECK.due("the YEAR's first day", x.next(0, 5, 0, 3), 5000);
+        CHECK.due("behind it", x.next(0, 5, 1, 3), 5001);
+        CHECK.due("behind that", x.next(0, 5, 2, 3), 5031);
     }
 
     private static void nextToTheEnd() {
@@ -445,6 +449,9 @@ public final class OfficeTest {
         x = Check.with("fixed 12 31 rank 1 a; fixed 1 1 rank 1 b;");
         CHECK.due("the first day and the last", x.unlike(0, 1, 5), 2);
         CHECK.due("the first day and the last of a long YEAR", x.unlike(0, 1, 4), 2);
+        x = Check.with("fixed 12 31 rank 1 a octave;");
+        CHECK.due("the last day alone", x.unlike(0, 1, 5), 1);
+        CHECK.due("the last day of a long YEAR alone", x.unlike(0, 1, 4), 1);
     }
 
     private static void unlikeRefused() {

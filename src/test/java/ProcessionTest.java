@@ -27,6 +27,7 @@ public final class ProcessionTest {
         meetsFirst();
         meetsTwoCorners();
         meetingFirst();
+        longestWays();
         meetingRefused();
         timedFirst();
         timedUpTo1440();
@@ -523,6 +524,31 @@ public final class ProcessionTest {
         walk(x, 0, 0, 0, 1, 0);
         walk(x, 1, 0, 0, 1, 0);
         meeting("at minute 0", x, 0);
+        // What 0 was, on from CORNER 0 to CORNER 2, is gone.
+        walk(x, 0, 100, 0, 1, 0, 2);
+        walk(x, 1, 115, 0, 2, 0);
+        meeting("on its way", x, 115);
+        walk(x, 0, 100, 0, 1, 0);
+        meeting("not on the way that it went", x, -1);
+        CHECK.due("nor is it hindered there", x.timed(1, 115), 115);
+        CHECK.due("nor does it hinder there", x.timed(0, 100), 100);
+    }
+
+    private static void longestWays() {
+        CHECK.says("each with 2 .. 12 CORNERS");
+        SaintsRoad x = row();
+        // 0 comes to CORNER 11 at 66, where 1 begins: each to the other's first CORNER.
+        walk(x, 0, 0, 0, 0, 1, 2, 3, 4, 5, 6, 7, 8, 9, 10, 11);
+        walk(x, 1, 66, 0, 11, 10, 9, 8, 7, 6, 5, 4, 3, 2, 1, 0);
+        meeting("at the twelfth CORNER", x, 66);
+        CHECK.due("timed behind it", x.timed(1, 60), 67);
+        x.late(1, 1);
+        meeting("a minute later", x, -1);
+        walk(x, 1, 10, 0, 11, 12);
+        CHECK.due("timed at its twelfth CORNER alone", x.timed(1, 66), 67);
+        CHECK.due("the other, timed at its twelfth CORNER", x.timed(0, 0), 0);
+        walk(x, 1, 66, 0, 11, 12);
+        CHECK.due("the other, put off", x.timed(0, 0), 1);
     }
 
     private static void meetingRefused() {
@@ -589,6 +615,14 @@ public final class ProcessionTest {
         CHECK.due("behind both", x.timed(1, 102), 103);
         walk(x, 3, 101, 0, 3, 0);
         CHECK.due("behind three in a row", x.timed(1, 100), 103);
+        // 1 begins at the CORNER to which 0 comes at 110.
+        x = star();
+        walk(x, 0, 100, 2, 1, 0);
+        walk(x, 1, 0, 4, 0, 2);
+        CHECK.due("gone ahead of it", x.timed(1, 105), 105);
+        CHECK.due("behind its tail", x.timed(1, 106), 113);
+        walk(x, 1, 0, 4, 0, 1);
+        CHECK.due("against it", x.timed(1, 86), 113);
     }
 
     private static void timedUpTo1440() {

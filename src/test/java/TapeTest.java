@@ -131,9 +131,12 @@ public final class TapeTest {
         CHECK.due("the wax is gone", x.wax(0, 5, 0, 364), 0);
         CHECK.due("yield is gone", x.held(0, 5, 1), -1);
         CHECK.due("lent is gone", x.fast(0, 5, 100), 0);
-        CHECK.due("one", Check.tell(x, 0, "fixed 1 2 rank 1 a;"), 1);
-        CHECK.due("the octave is gone", x.feast(0, 0, 3), 0);
-        CHECK.due("the vigil is gone", x.feast(0, 0, 2), 0);
+        for (int time = 1; time <= 3; time++) {
+            CHECK.due("one", Check.tell(x, 0, "fixed 1 " + time + " rank 1 a;"), 1);
+            CHECK.due("the octave is gone", x.feast(0, 0, 3), 0);
+            CHECK.due("the vigil is gone", x.feast(0, 0, 2), 0);
+            CHECK.due("its day, time " + time, x.held(0, 5, 0), time - 1);
+        }
         CHECK.due("a text of blanks", Check.tell(x, 0, " \n "), 0);
         CHECK.due("all is gone", x.count(10), 0);
         CHECK.due("sixty", Check.tell(x, 0, Check.daily(60, 1)), 60);
@@ -203,6 +206,21 @@ public final class TapeTest {
         CHECK.due("its vigil", x.fast(0, 5, 58), 1);
         CHECK.due("its wax", x.wax(0, 5, 59, 59), 9);
         CHECK.due("its lent", x.fast(0, 5, 99), 0);
+        for (int time = 1; time <= 3; time++) {
+            Check.tell(x, 1, "wax 1 5; lent 9; yield 1 1; fixed 1 1 rank 1 b vigil octave from 9 till 9 %");
+            CHECK.due("nothing of it comes into the next text", Check.tell(x, 1, "fixed 1 2 rank 1 a;"), 1);
+            int[] row = {0, 1, 0, 0, 1, 2000, 1};
+            for (int what = 0; what < row.length; what++) {
+                CHECK.due("feast what " + what, x.feast(1, 0, what), row[what]);
+            }
+            CHECK.due("no wax", x.wax(1, 5, 0, 364), 0);
+            CHECK.due("no lent", x.fast(1, 5, 100), 0);
+        }
+        Check.tell(x, 1, "%");
+        CHECK.due("an empty text behind a FAULT", x.calendar(1), 0);
+        CHECK.due("has none", x.fault(0), 0);
+        CHECK.due("and no PLACE", x.fault(1), -1);
+        CHECK.due("and is a CALENDAR", x.count(11), 0);
     }
 
     private static void faultOfTheLatest() {
@@ -235,6 +253,9 @@ public final class TapeTest {
         CHECK.due("PLACE of a sound one", x.fault(1), -1);
         Check.tell(x, 0, ";");
         CHECK.due("a PLACE that is 0", x.fault(1), 0);
+        Check.tell(x, 0, "");
+        CHECK.due("KIND of an empty one", x.fault(0), 0);
+        CHECK.due("PLACE of an empty one", x.fault(1), -1);
     }
 
     private static void faultOther() {

@@ -175,6 +175,9 @@ public final class TextTest {
             sound("fixed 1 1 rank 1 " + word + "s;", 1);
             sound("fixed 1 1 rank 1 " + word.substring(1) + ";", 1);
             sound("fixed 1 1 rank 1 " + word.substring(0, word.length() - 1) + ";", 1);
+            for (int i = 0; i < word.length(); i++) {
+                sound("fixed 1 1 rank 1 " + word.substring(0, i) + "q" + word.substring(i + 1) + ";", 1);
+            }
         }
         for (String name : new String[] {"name", "line", "text", "m", "d", "n", "k", "r", "y", "feast", "easter"}) {
             sound("fixed 1 1 rank 1 " + name + ";", 1);
