@@ -7,6 +7,7 @@ public final class BrotherhoodTest {
 
     public static void main(String[] args) {
         brotherhoods();
+        yearsFromTo();
         carriedDayByDay();
         carriedLeast();
         longestAgo();
@@ -61,6 +62,19 @@ public final class BrotherhoodTest {
         carriers("the last", x, 512, 9, 9, 9, 9, 9, 9, 9, 9);
         carriers("all ten", x, 1023, 0, 1, 2, 3, 4, 5, 6, 7);
         carriers("the last four", x, 0b11_1100_0000, 6, 7, 8, 9, 6, 7, 8, 9);
+    }
+
+    private static void yearsFromTo() {
+        CHECK.says("rota() of a set of them in a PLACE, years from .. to");
+        SaintsRoad x = on("1 1", "12 31");
+        for (int years = 1; years <= 20; years++) {
+            CHECK.due(years + " YEARS", x.rota(0, 100, 99 + years, 8, 1), 2 * years);
+            CHECK.due("from", x.turn(0, 0), 100);
+            CHECK.due("its first day", x.turn(0, 1), 0);
+            CHECK.due("to", x.turn(2 * years - 1, 0), 99 + years);
+            CHECK.due("its last day", x.turn(2 * years - 1, 1), (99 + years) % 4 == 0 ? 365 : 364);
+            CHECK.due("no more", x.turn(2 * years, 0), -1);
+        }
     }
 
     private static void carriedDayByDay() {

@@ -7,6 +7,7 @@ public final class OfficeTest {
     private static final Check CHECK = new Check();
 
     public static void main(String[] args) {
+        dayByDay();
         heldOnTheirDay();
         leastRank();
         notAboveYieldsRank();
@@ -57,6 +58,20 @@ public final class OfficeTest {
         for (int i = 0; i < fasts.length; i++) {
             CHECK.due(what + ": fast on " + (first + i), x.fast(0, year, first + i), fasts[i]);
         }
+    }
+
+    private static void dayByDay() {
+        CHECK.says("OFFICES of a PLACE in a YEAR, day by day from 0 on");
+        // b gives way to a on day 0 and to d on day 1; on day 2, c's own, it is told behind c or ahead of it.
+        SaintsRoad x = Check.with("fixed 1 3 rank 2 c; fixed 1 1 rank 2 b; fixed 1 1 rank 1 a; fixed 1 2 rank 1 d; yield 2 2;");
+        heldDays("from day 0", x, 5, 2, -1, 0, 1);
+        x = Check.with("fixed 1 1 rank 2 b; fixed 1 3 rank 2 c; fixed 1 1 rank 1 a; fixed 1 2 rank 1 d; yield 2 2;");
+        heldDays("from day 0, told first", x, 5, 2, 3, 0, 1);
+        Check.tell(x, 1, "fixed 1 1 rank 1 z;");
+        CHECK.due("of each PLACE", x.office(1, 5, 0), 0);
+        CHECK.due("of each PLACE", x.office(1, 5, 1), -10);
+        CHECK.due("of each YEAR", x.office(0, 6, 3), 1);
+        CHECK.due("of the YEAR that was asked for first", x.office(0, 5, 0), 2);
     }
 
     private static void heldOnTheirDay() {

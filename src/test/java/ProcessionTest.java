@@ -11,6 +11,7 @@ public final class ProcessionTest {
         atCorners();
         inStreets();
         oppositeWays();
+        wholeMinutes();
         streetTold();
         streetRefused();
         minutesKept();
@@ -31,6 +32,7 @@ public final class ProcessionTest {
         meetingRefused();
         timedFirst();
         timedUpTo1440();
+        timedBegunThen();
         timedOthers();
         timedRefused();
         timedChangesNothing();
@@ -225,6 +227,24 @@ public final class ProcessionTest {
         meeting("in unlike STREETS", x, -1);
         walk(x, 1, 85, 0, 2, 0, 1, 0);
         meeting("the same way, then back", x, 105);
+    }
+
+    private static void wholeMinutes() {
+        CHECK.says("(At a minute means whole minutes.)");
+        SaintsRoad x = new SaintsRoad();
+        x.street(0, 1, 1);
+        // 0 is in the STREET at 100 and at 101, at each CORNER at one of them.
+        walk(x, 0, 100, 0, 0, 1);
+        int[] first = {-1, 100, 100, 101, -1};
+        for (int i = 0; i < first.length; i++) {
+            walk(x, 1, 98 + i, 0, 1, 0);
+            meeting("the other way, begun at " + (98 + i), x, first[i]);
+        }
+        for (int minute = 99; minute <= 101; minute++) {
+            walk(x, 1, minute, 0, 0, 1);
+            meeting("the same way, begun at " + minute, x, minute == 100 ? 100 : -1);
+        }
+        CHECK.due("timed against it", x.timed(1, 100), 101);
     }
 
     private static void streetTold() {
@@ -645,6 +665,18 @@ public final class ProcessionTest {
         CHECK.due("gone as it comes", x.timed(1, 0), 0);
         walk(x, 2, 0, 10, 0, 3);
         CHECK.due("there as it comes", x.timed(1, 0), 1);
+    }
+
+    private static void timedBegunThen() {
+        CHECK.says("at which PROCESSION k (of 2 CORNERS or more), begun then, would MEET");
+        for (int now : new int[] {0, 100, 105, 700, 1440}) {
+            SaintsRoad x = star();
+            walk(x, 0, 100, 5, 1, 0);
+            walk(x, 1, now, 3, 2, 0);
+            CHECK.due("whenever it begins now: " + now, x.timed(1, 97), 106);
+            CHECK.due("ahead of it: " + now, x.timed(1, 96), 96);
+            CHECK.due("later than now: " + now, x.timed(1, 1000), 1000);
+        }
     }
 
     private static void timedOthers() {

@@ -9,11 +9,14 @@ public final class TextTest {
         "yield", "wax", "lent"};
 
     public static void main(String[] args) {
+        wholeTape();
         blanks();
         words();
         numbers();
+        signs();
         whatGoesOn();
         textsAndLines();
+        kindsOfLines();
         marksInAnyOrder();
         names();
         months();
@@ -51,6 +54,18 @@ public final class TextTest {
         CHECK.due("KIND of '" + text + "'", x.fault(0), 0);
         CHECK.due("PLACE of '" + text + "'", x.fault(1), -1);
         CHECK.due("FEASTS of '" + text + "'", x.count(12), feasts);
+    }
+
+    private static void wholeTape() {
+        CHECK.says("A CALENDAR's text, on THE TAPE (at most 4000 bytes)");
+        String head = "fixed 1 1 rank 1 a";
+        sound(head + " ".repeat(3999 - head.length()) + ";", 1);
+        fault(head + " ".repeat(4000 - head.length()), 1, 4000);
+        sound(" ".repeat(3999 - head.length()) + head + ";", 1);
+        sound(" ".repeat(4000), 0);
+        // NAMES and numbers to the last byte: sixty FEASTS, and blanks between.
+        String sixty = Check.daily(60, 8);
+        sound(sixty + "\n".repeat(3993 - sixty.length()) + "lent 1;", 60);
     }
 
     private static void blanks() {
@@ -110,6 +125,18 @@ public final class TextTest {
         CHECK.due("wax", x.wax(0, 1234, 250, 250), 8901);
     }
 
+    private static void signs() {
+        CHECK.says(", - and ;");
+        sound("moved-5rank 1 a;moved - 6 rank 1 b ; moved\n-\n7 rank 1 c\n;", 3);
+        fault("moved --5 rank 1 a;", 1, 7);
+        fault("moved 5- rank 1 a;", 1, 7);
+        fault("moved +5 rank 1 a;", 1, 6);
+        fault("fixed-1 1 rank 1 a;", 1, 5);
+        fault("lent 5:", 1, 6);
+        fault("lent 5,", 1, 6);
+        fault("lent 5.", 1, 6);
+    }
+
     /** Each TOKEN behind each beginning of a text: with which it goes on, and (in the third row) which are TWICE. */
     private static void whatGoesOn() {
         CHECK.says("a TOKEN (or byte that is none, a run that is too long) with which no text goes on");
@@ -157,6 +184,28 @@ public final class TextTest {
         fault(HEAD, 1, 19);
         sound(HEAD + ";", 1);
         fault("lent 5 wax 1 1;", 1, 7);
+    }
+
+    private static void kindsOfLines() {
+        CHECK.says("line = (\"fixed\" M D | \"moved\" [\"-\"] N | \"sunday\" K M) \"rank\" R NAME");
+        SaintsRoad x = Check.with("fixed 2 3 rank 4 a; moved 5 rank 6 b; moved - 7 rank 8 c; sunday 2 3 rank 1 d;"
+            + " yield 2 3; wax 4 5; lent 6;");
+        int[][] rows = {{0, 4, 33}, {1, 6, 106}, {1, 8, 94}, {2, 1, 66}};
+        for (int f = 0; f < rows.length; f++) {
+            CHECK.due("kind of " + f, x.feast(0, f, 0), rows[f][0]);
+            CHECK.due("R of " + f, x.feast(0, f, 1), rows[f][1]);
+            CHECK.due("OWN day of " + f, x.own(0, 5, f), rows[f][2]);
+        }
+        CHECK.says("| \"yield\" R N | \"wax\" R N | \"lent\" N.");
+        CHECK.due("wax of R 4", x.wax(0, 5, 33, 33), 5);
+        CHECK.due("lent", x.fast(0, 5, 95), 1);
+        for (String line : new String[] {"fixed 2 3 4 rank 5 a;", "fixed 2 rank 5 a;", "sunday 2 rank 5 a;",
+            "moved 2 3 rank 5 a;", "yield 2;", "yield 2 3 4;", "wax 4;", "wax 4 5 6;", "lent;", "lent 6 7;", "lent 6 a;",
+            "yield 2 3 a;", "fixed 2 3 a rank 4;", "fixed 2 3 rank 4;", "fixed 2 3 rank a;", "fixed 2 3 rank 4 a b;"}) {
+            SaintsRoad y = new SaintsRoad();
+            CHECK.due("calendar of '" + line + "'", Check.tell(y, 0, line), -1);
+            CHECK.due("KIND of '" + line + "'", y.fault(0), 1);
+        }
     }
 
     private static void marksInAnyOrder() {
