@@ -877,18 +877,12 @@ public final class SaintsRoad {
             switch (state) {
                 case AT_YIELD_RANK: calendar.yieldRank = value; return goTo(AT_YIELD_TIMES);
                 case AT_YIELD_TIMES: calendar.yieldTimes = value; return goTo(AT_SEMICOLON);
-                case AT_WAX_RANK: return takeWaxRank();
+                case AT_WAX_RANK:
+                    waxRank = value;
+                    return calendar.waxByRank[waxRank] != NONE ? TWICE : goTo(AT_WAX);
                 case AT_WAX: calendar.waxByRank[waxRank] = value; return goTo(AT_SEMICOLON);
                 default: calendar.lent = value; return goTo(AT_SEMICOLON);
             }
-        }
-
-        private int takeWaxRank() {
-            if (calendar.waxByRank[value] != NONE) {
-                return TWICE;
-            }
-            waxRank = value;
-            return goTo(AT_WAX);
         }
 
         private static boolean isBlank(int b) {

@@ -6,9 +6,10 @@ import java.lang.reflect.Modifier;
 import java.nio.file.Files;
 import java.nio.file.Paths;
 import java.util.Arrays;
-import java.util.HashSet;
 import java.util.List;
+import java.util.Map;
 import java.util.Set;
+import java.util.TreeMap;
 import java.util.TreeSet;
 import java.util.regex.Matcher;
 import java.util.regex.Pattern;
@@ -22,11 +23,34 @@ public final class FaceAndRulesTest {
         "rota iiiii", "turn ii", "carried i", "street iii", "begin iiii", "goes ii", "late ii", "procession ii", "meets ",
         "meeting ii", "timed ii", "count i"};
 
+    /** A method's or constructor's first line, at the outer class or in one inside it. */
+    private static final Pattern METHOD = Pattern.compile(
+        "(?m)^( {4}| {8})(?:(?:public|private|static) )*(?:[\\w\\[\\]]+ )?(\\w+)\\([^)]*\\) \\{$");
+    private static final int MOST_LINES = 60;
+    private static final int DEEPEST = 8;
+
     public static void main(String[] args) throws IOException {
+        faceIsTheDocuments();
         face();
         nestedClasses();
-        text();
+        String code = code();
+        text(code);
+        methods(code);
         CHECK.finish();
+    }
+
+    private static void faceIsTheDocuments() throws IOException {
+        String document = new String(Files.readAllBytes(Paths.get("../shared/DOC.md")));
+        Matcher row = Pattern.compile("\n    public int (\\w+)\\((.*)\\);").matcher(document);
+        Set<String> told = new TreeSet<>();
+        while (row.find()) {
+            StringBuilder types = new StringBuilder();
+            for (String parameter : row.group(2).split(", ")) {
+                types.append(parameter.isEmpty() ? "" : parameter.substring(0, 1));
+            }
+            told.add(row.group(1) + " " + types);
+        }
+        CHECK.that("the document's face: " + told, told.equals(new TreeSet<>(Arrays.asList(FACE))));
     }
 
     private static void face() {
@@ -34,7 +58,9 @@ public final class FaceAndRulesTest {
         CHECK.that("public and final", Modifier.isPublic(type.getModifiers()) && Modifier.isFinal(type.getModifiers()));
         Set<String> methods = new TreeSet<>();
         for (Method m : type.getDeclaredMethods()) {
-            if (!Modifier.isPrivate(m.getModifiers())) {
+            if (Modifier.isPrivate(m.getModifiers())) {
+                CHECK.that("no name of the face: " + m, !isOfTheFace(m.getName()));
+            } else {
                 CHECK.that("public, answers int: " + m, Modifier.isPublic(m.getModifiers())
                     && m.getReturnType() == int.class && !Modifier.isStatic(m.getModifiers()));
                 StringBuilder types = new StringBuilder();
@@ -61,11 +87,16 @@ public final class FaceAndRulesTest {
         CHECK.due("FULL", SaintsRoad.FULL, -3);
     }
 
-    private static void nestedClasses() {
-        Set<String> names = new HashSet<>();
+    private static boolean isOfTheFace(String name) {
         for (String row : FACE) {
-            names.add(row.split(" ")[0]);
+            if (row.startsWith(name + " ")) {
+                return true;
+            }
         }
+        return false;
+    }
+
+    private static void nestedClasses() {
         Class<?>[] nested = SaintsRoad.class.getDeclaredClasses();
         CHECK.that("at most twelve classes", nested.length < 12);
         for (Class<?> type : nested) {
@@ -78,16 +109,20 @@ public final class FaceAndRulesTest {
             }
             CHECK.that("at most twenty fields: " + type, fields <= 20);
             for (Method m : type.getDeclaredMethods()) {
-                CHECK.that("no name of the face: " + m, !names.contains(m.getName()));
+                CHECK.that("no name of the face: " + m, !isOfTheFace(m.getName()));
                 CHECK.that("at most seven parameters: " + m, m.getParameterCount() <= 7);
             }
         }
     }
 
-    private static void text() throws IOException {
+    /** The class's text without comments and texts in quotes. */
+    private static String code() throws IOException {
         List<String> lines = Files.readAllLines(Paths.get("src/main/java/SaintsRoad.java"));
-        String code = String.join("\n", lines).replaceAll("(?s)/\\*.*?\\*/", "").replaceAll("//[^\n]*", "")
+        return String.join("\n", lines).replaceAll("(?s)/\\*.*?\\*/", "").replaceAll("//[^\n]*", "")
             .replaceAll("\"[^\"\n]*\"", "\"\"");
+    }
+
+    private static void text(String code) {
         String[] banned = {"throw", "throws", "try", "catch", "synchronized", "assert", "equals", "hashCode",
             "toString", "protected", "package", "Object", "System"};
         for (String word : banned) {
@@ -109,5 +144,40 @@ public final class FaceAndRulesTest {
             boolean row = line.matches("\\w+(\\[\\w\\])? = new \\w+(\\[\\w+\\]|\\(\\));");
             CHECK.that("made with the object: " + line, field || row);
         }
+    }
+
+    /** Rules 8 and 11: methods are short, none comes to call itself, and calls go at most eight deep. */
+    private static void methods(String code) {
+        Map<String, String> bodies = new TreeMap<>();
+        Matcher method = METHOD.matcher(code);
+        while (method.find()) {
+            int close = code.indexOf("\n" + method.group(1) + "}", method.end());
+            CHECK.that("an end of " + method.group(2), close >= 0);
+            String body = code.substring(method.end(), Math.max(close, method.end()));
+            CHECK.that("short: " + method.group(2), body.split("\n").length < MOST_LINES);
+            bodies.merge(method.group(2), body, String::concat);
+        }
+        for (String row : FACE) {
+            String name = row.split(" ")[0];
+            CHECK.that("the text has " + name, bodies.containsKey(name));
+            int deep = depth(name, bodies, 0);
+            CHECK.that(name + " goes " + deep + " deep", deep <= DEEPEST);
+        }
+        CHECK.that("the constructor", depth("SaintsRoad", bodies, 0) <= DEEPEST);
+    }
+
+    /** How many calls stand open at once, by names alone; far above the bound where one calls itself. */
+    private static int depth(String name, Map<String, String> bodies, int above) {
+        if (above > DEEPEST) {
+            return 1;
+        }
+        int deepest = 0;
+        Matcher called = Pattern.compile("\\b(\\w+)\\(").matcher(bodies.get(name));
+        while (called.find()) {
+            if (bodies.containsKey(called.group(1))) {
+                deepest = Math.max(deepest, depth(called.group(1), bodies, above + 1));
+            }
+        }
+        return 1 + deepest;
     }
 }
